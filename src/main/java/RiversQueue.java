@@ -405,7 +405,7 @@ public final class RiversQueue {
         /** The river that stands at each place. */
         private final int[] row = new int[MOST_RIVERS];
         private int hours;
-        /** Of which river the sea took any water in the latest hour, or NONE. */
+        /** Of which river the sea took any water in the hour that passed last here, or NONE. */
         private int takenOf = NONE;
 
         Shore(Coast coast) {
@@ -419,7 +419,6 @@ public final class RiversQueue {
                 row[river] = river;
             }
             hours = 0;
-            takenOf = NONE;
         }
 
         void copyFrom(Shore other) {
@@ -427,7 +426,6 @@ public final class RiversQueue {
             System.arraycopy(other.took, 0, took, 0, MOST_RIVERS);
             System.arraycopy(other.row, 0, row, 0, MOST_RIVERS);
             hours = other.hours;
-            takenOf = other.takenOf;
         }
 
         int waterInAll() {
@@ -489,10 +487,10 @@ public final class RiversQueue {
                 return water[behind] > 0;
             }
             switch (kind) {
-                case RIVER: return water[behind] > 2 * water[ahead];
                 case FLOOD: return water[behind] > water[ahead];
+                case BROOK: return false;
                 case TORRENT: return water[behind] >= water[ahead];
-                default: return false;
+                default: return water[behind] > 2 * water[ahead];
             }
         }
 

@@ -96,6 +96,8 @@ public final class SeenTest {
         checks.due("look for 1", x.river(1, 7), 7);
         // 2 with w: 0 ahead to hour 2, 1 goes behind in hour 3.
         checks.due("look for 2", x.river(2, 7), 8);
+        // With 7 to 9, the flood pushes in at once, and stays first for seven hours; else it never does.
+        checks.due("look for the flood", Checks.coastOf("b42,f00;1").river(1, 7), 1);
         RiversQueue late = Checks.coastOf("b90,b00;1");
         late.rain(0, 3);
         // 12 hours are gone before it is first: each look leaves all ten.
