@@ -1,8 +1,12 @@
+import java.util.function.Supplier;
+import java.util.function.ToIntFunction;
+
 /** Counts the answers that are not due, and ends the test with exit code 1 if there was one. */
 final class Checks {
     static final int NONE = -1, UNKNOWN = -101, OUTSIDE = -102, STATE = -103, FULL = -104;
     /** Numbers that name nothing, whatever is asked. */
-    static final int[] WILD = {Integer.MIN_VALUE, -101, -2, -1, 127, 65536, Integer.MAX_VALUE};
+    static final int[] WILD = {Integer.MIN_VALUE, Integer.MIN_VALUE + 1, -65536, -101, -2, -1, 127, 128, 256, 65536,
+        Integer.MAX_VALUE - 1, Integer.MAX_VALUE};
 
     private final String test;
     private int done;
@@ -32,10 +36,22 @@ final class Checks {
         due(call + ", row(" + rivers.length + ")", x.row(rivers.length), UNKNOWN);
     }
 
-    /** A refused call changes nothing: the digest tells nearly all there is. */
-    void dueUnchanged(String call, RiversQueue x, long got, long want, long digestBefore) {
-        due(call, got, want);
-        due("digest() after " + call, x.digest(), digestBefore);
+    /** A refused call changes nothing: neither what is told, nor the image. */
+    void dueRefused(String call, Supplier<RiversQueue> made, ToIntFunction<RiversQueue> asked, int want) {
+        RiversQueue x = made.get();
+        Told before = Told.by(x);
+        due(call, asked.applyAsInt(x), want);
+        Told.by(x).dueAs(this, "refused " + call, before);
+        // The image is told by restore() alone, so another object is asked that had no such call.
+        RiversQueue twin = made.get();
+        due("refused " + call + ", restore()", x.restore(), twin.restore());
+        Told.by(x).dueAs(this, "refused " + call + " and restored", Told.by(twin));
+    }
+
+    void dueRefused(String call, Scene[] scenes, ToIntFunction<RiversQueue> asked, int want) {
+        for (Scene scene : scenes) {
+            dueRefused(scene + ": " + call, scene, asked, want);
+        }
     }
 
     void end() {
@@ -51,12 +67,43 @@ final class Checks {
         }
     }
 
-    static RiversQueue coastOf(String text) {
+    static RiversQueue pageOf(String text) {
         RiversQueue x = new RiversQueue();
         write(x, text);
+        return x;
+    }
+
+    static RiversQueue coastOf(String text) {
+        RiversQueue x = pageOf(text);
         if (x.coast() < 0) {
             throw new IllegalArgumentException("no coast: " + text);
         }
         return x;
+    }
+
+    /** As read, and then rain until each has so much, which is not less than what the text tells. */
+    static RiversQueue coastWith(String text, int... water) {
+        RiversQueue x = coastOf(text);
+        for (int river = 0; river < water.length; river++) {
+            while (x.river(river, 1) < water[river]) {
+                x.rain(river, Math.min(50, water[river] - x.river(river, 1)));
+            }
+        }
+        return x;
+    }
+
+    /** The numbers that name none of so many: the first one, the one ahead of 0, and wild ones. */
+    static int[] beyond(int many) {
+        int[] numbers = java.util.Arrays.copyOf(WILD, WILD.length + 2);
+        numbers[WILD.length] = many;
+        numbers[WILD.length + 1] = many + 1;
+        return numbers;
+    }
+
+    /** The numbers outside of least to most: the next one on either side, and wild ones. */
+    static int[] outside(int least, int most) {
+        int[] numbers = beyond(most + 1);
+        numbers[numbers.length - 1] = least - 1;
+        return numbers;
     }
 }

@@ -4,7 +4,9 @@ public final class NewObjectTest {
         Checks checks = new Checks("NewObjectTest");
         theConstants(checks);
         noCoastAtFirst(checks);
-        allRefuseWithoutCoast(checks);
+        noRiversAtFirst(checks);
+        callsThatNeedACoast(checks);
+        callsThatNeedNone(checks);
         objectsStandAlone(checks);
         checks.end();
     }
@@ -22,9 +24,6 @@ public final class NewObjectTest {
         for (int what = 0; what <= 8; what++) {
             checks.due("new: count(" + what + ")", x.count(what), 0);
         }
-        checks.due("new: fault()", x.fault(), 0);
-        checks.due("new: blank()", x.blank(), 0);
-        checks.due("new: forget()", x.forget(), 0);
         long h = 971;
         for (int i = 0; i < 9; i++) {
             h = 31 * h;
@@ -32,36 +31,56 @@ public final class NewObjectTest {
         checks.due("new: digest()", x.digest(), h);
     }
 
-    private static void allRefuseWithoutCoast(Checks checks) {
-        RiversQueue x = new RiversQueue();
-        long h = x.digest();
-        checks.dueUnchanged("coast()", x, x.coast(), Checks.STATE, h);
-        checks.dueUnchanged("hour()", x, x.hour(), Checks.STATE, h);
-        checks.dueUnchanged("image()", x, x.image(), Checks.STATE, h);
-        checks.dueUnchanged("restore()", x, x.restore(), Checks.STATE, h);
-        checks.dueUnchanged("wide(1, 0)", x, x.wide(1, 0), Checks.STATE, h);
-        checks.dueUnchanged("wide(0, 0)", x, x.wide(0, 0), Checks.OUTSIDE, h);
-        checks.dueUnchanged("best(0)", x, x.best(0), Checks.STATE, h);
-        checks.dueUnchanged("best(14)", x, x.best(14), Checks.STATE, h);
-        checks.dueUnchanged("best(1)", x, x.best(1), Checks.OUTSIDE, h);
-        checks.dueUnchanged("seasons(1, 0, 0)", x, x.seasons(1, 0, 0), Checks.STATE, h);
-        checks.dueUnchanged("seasons(1, 0, 3)", x, x.seasons(1, 0, 3), Checks.OUTSIDE, h);
-        checks.dueUnchanged("see(1, 0, true)", x, x.see(1, 0, true), Checks.UNKNOWN, h);
-        checks.dueUnchanged("see(0, 0, true)", x, x.see(0, 0, true), Checks.OUTSIDE, h);
-        for (int number = -1; number <= 5; number++) {
-            checks.dueUnchanged("river(n, 9)", x, x.river(number, 9), Checks.UNKNOWN, h);
-            checks.dueUnchanged("as(n, 9)", x, x.as(number, 9), Checks.UNKNOWN, h);
-            checks.dueUnchanged("row(n)", x, x.row(number), Checks.UNKNOWN, h);
-            checks.dueUnchanged("rain(n, 0)", x, x.rain(number, 0), Checks.UNKNOWN, h);
-            checks.dueUnchanged("drought(n)", x, x.drought(number), Checks.UNKNOWN, h);
+    /** "At first there is none": no number names one, and that is told ahead of all else. */
+    private static void noRiversAtFirst(Checks checks) {
+        for (int number : new int[] {-1, 0, 1, 4, 5}) {
+            checks.dueRefused("new: river(n, 0)", Scene.NEW, x -> x.river(number, 0), Checks.UNKNOWN);
+            checks.dueRefused("new: river(n, 8)", Scene.NEW, x -> x.river(number, 8), Checks.UNKNOWN);
+            checks.dueRefused("new: as(n, 0)", Scene.NEW, x -> x.as(number, 0), Checks.UNKNOWN);
+            checks.dueRefused("new: as(n, 5)", Scene.NEW, x -> x.as(number, 5), Checks.UNKNOWN);
+            checks.dueRefused("new: row(n)", Scene.NEW, x -> x.row(number), Checks.UNKNOWN);
+            checks.dueRefused("new: rain(n, 1)", Scene.NEW, x -> x.rain(number, 1), Checks.UNKNOWN);
+            checks.dueRefused("new: rain(n, 0)", Scene.NEW, x -> x.rain(number, 0), Checks.UNKNOWN);
+            checks.dueRefused("new: drought(n)", Scene.NEW, x -> x.drought(number), Checks.UNKNOWN);
+            checks.dueRefused("new: see(1, n, true)", Scene.NEW, x -> x.see(1, number, true), Checks.UNKNOWN);
         }
+    }
+
+    /** "STATE: no COAST", but behind OUTSIDE, where that is told ahead of it. */
+    private static void callsThatNeedACoast(Checks checks) {
+        checks.dueRefused("new: coast()", Scene.NEW, x -> x.coast(), Checks.STATE);
+        checks.dueRefused("new: hour()", Scene.NEW, x -> x.hour(), Checks.STATE);
+        checks.dueRefused("new: image()", Scene.NEW, x -> x.image(), Checks.STATE);
+        checks.dueRefused("new: restore()", Scene.NEW, x -> x.restore(), Checks.STATE);
+        checks.dueRefused("new: wide(1, 0)", Scene.NEW, x -> x.wide(1, 0), Checks.STATE);
+        checks.dueRefused("new: wide(60, 1)", Scene.NEW, x -> x.wide(60, 1), Checks.STATE);
+        checks.dueRefused("new: best(0)", Scene.NEW, x -> x.best(0), Checks.STATE);
+        checks.dueRefused("new: best(14)", Scene.NEW, x -> x.best(14), Checks.STATE);
+        checks.dueRefused("new: seasons(1, 0, 0)", Scene.NEW, x -> x.seasons(1, 0, 0), Checks.STATE);
+        checks.dueRefused("new: seasons(60, 2147483647, 2)", Scene.NEW, x -> x.seasons(60, Integer.MAX_VALUE, 2),
+            Checks.STATE);
+        checks.dueRefused("new: wide(0, 0)", Scene.NEW, x -> x.wide(0, 0), Checks.OUTSIDE);
+        checks.dueRefused("new: best(1)", Scene.NEW, x -> x.best(1), Checks.OUTSIDE);
+        checks.dueRefused("new: seasons(1, 0, 3)", Scene.NEW, x -> x.seasons(1, 0, 3), Checks.OUTSIDE);
+        checks.dueRefused("new: see(0, 0, true)", Scene.NEW, x -> x.see(0, 0, true), Checks.OUTSIDE);
+    }
+
+    private static void callsThatNeedNone(Checks checks) {
+        RiversQueue x = new RiversQueue();
+        checks.due("new: fault()", x.fault(), 0);
+        checks.due("new: blank()", x.blank(), 0);
+        checks.due("new: forget()", x.forget(), 0);
+        checks.due("new: letter(1)", x.letter(1), 1);
+        checks.due("new: count(6)", x.count(6), 1);
     }
 
     private static void objectsStandAlone(Checks checks) {
         RiversQueue one = Checks.coastOf("r10,f20;1");
         RiversQueue other = new RiversQueue();
         one.hour();
-        checks.due("another object: count(0)", other.count(0), 0);
-        checks.due("another object: hour()", other.hour(), Checks.STATE);
+        one.image();
+        one.letter('r');
+        Told.by(other).dueAs(checks, "another object", Told.by(new RiversQueue()));
+        checks.due("another object: restore()", other.restore(), Checks.STATE);
     }
 }

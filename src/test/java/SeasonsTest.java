@@ -1,13 +1,28 @@
+import java.math.BigInteger;
+
 /** Promise 16: seasons. By the seed 1 the draws begin 16838, 5758, 10113, 17515, 31051, 5627. */
 public final class SeasonsTest {
+    /** At the ends, at the bounds of the draws' powers of 2, and where a product is beyond 2 to the 31 or the 63. */
+    private static final int[] SEEDS = {0, 1, 2, 3, 7, 65535, 65536, 65537, 12345, 1103515245, (1 << 30) - 1, 1 << 30,
+        (1 << 30) + 1, Integer.MAX_VALUE - 1, Integer.MAX_VALUE};
+    private static final BigInteger TIMES = BigInteger.valueOf(1103515245);
+    private static final BigInteger TWO_TO_THE_31 = BigInteger.ONE.shiftLeft(31);
+    private static final String[] COASTS = {"b00,b00;1", "r31,f82;4", "o12,b34,r50;3", "r25,f14,t03,o92;5",
+        "r10,f21,b32,o43,t54;7", "t95,t95,t95,t95,t95;1"};
+
     public static void main(String[] args) {
         Checks checks = new Checks("SeasonsTest");
         rainThenHour(checks);
         muchFirstThenRiver(checks);
         rainEndsAt99(checks);
         theSeedThen(checks);
+        theSeedWraps(checks);
+        asRainAndHourTell(checks);
         fromNowAsItIs(checks);
-        refuses(checks);
+        hoursOutside(checks);
+        seedOutside(checks);
+        whatOutside(checks);
+        noCoast(checks);
         checks.end();
     }
 
@@ -35,10 +50,10 @@ public final class SeasonsTest {
     }
 
     private static void rainEndsAt99(Checks checks) {
-        RiversQueue x = Checks.coastOf("b90,b00;1");
-        x.rain(0, 50);
-        x.rain(0, 39);
-        due(checks, x, 1, 1, 1, 98);
+        due(checks, Checks.coastWith("b90,b00;1", 96), 1, 1, 1, 97);
+        due(checks, Checks.coastWith("b90,b00;1", 97), 1, 1, 1, 98);
+        due(checks, Checks.coastWith("b90,b00;1", 98), 1, 1, 1, 98);
+        due(checks, Checks.coastWith("b90,b00;1", 99), 1, 1, 1, 98);
     }
 
     private static void theSeedThen(Checks checks) {
@@ -53,28 +68,106 @@ public final class SeasonsTest {
         checks.due("60 hours at once", x.seasons(60, 7, 2), seed);
     }
 
-    private static void fromNowAsItIs(Checks checks) {
-        RiversQueue x = Checks.coastOf("b30,b00;5");
-        due(checks, x, 1, 1, 5, 0);
-        long h = x.digest();
-        due(checks, x, 60, 1, x.seasons(60, 1, 0), x.seasons(60, 1, 1));
-        checks.due("they only would be", x.digest(), h);
-        x.drought(0);
-        // 2 in 0, which is behind 1 now, and stays.
-        due(checks, x, 1, 1, 0, 2);
+    private static BigInteger next(BigInteger seed) {
+        return seed.multiply(TIMES).add(BigInteger.valueOf(12345)).mod(TWO_TO_THE_31);
     }
 
-    private static void refuses(Checks checks) {
-        RiversQueue x = Checks.coastOf("b30,b00;5");
-        long h = x.digest();
-        checks.dueUnchanged("seasons(0, 1, 0)", x, x.seasons(0, 1, 0), Checks.OUTSIDE, h);
-        checks.dueUnchanged("seasons(61, 1, 0)", x, x.seasons(61, 1, 0), Checks.OUTSIDE, h);
-        checks.dueUnchanged("seasons(60, -1, 0)", x, x.seasons(60, -1, 0), Checks.OUTSIDE, h);
-        checks.dueUnchanged("seasons(60, least, 0)", x, x.seasons(60, Integer.MIN_VALUE, 0), Checks.OUTSIDE, h);
-        checks.dueUnchanged("seasons(60, 1, 3)", x, x.seasons(60, 1, 3), Checks.OUTSIDE, h);
-        for (int wild : Checks.WILD) {
-            checks.dueUnchanged("seasons(" + wild + ", 1, 0)", x, x.seasons(wild, 1, 0), Checks.OUTSIDE, h);
-            checks.dueUnchanged("seasons(1, 1, " + wild + ")", x, x.seasons(1, 1, wild), Checks.OUTSIDE, h);
+    /** "that by 65536 (rounded down), its rest". */
+    private static int drawOf(BigInteger seed, int many) {
+        return seed.divide(BigInteger.valueOf(65536)).mod(BigInteger.valueOf(many)).intValue();
+    }
+
+    /** "1103515245 times it and 12345, its rest by 2 to the 31". */
+    private static void theSeedWraps(Checks checks) {
+        RiversQueue x = Checks.coastOf("b00,b00;1");
+        for (int seed : SEEDS) {
+            for (int hours : new int[] {1, 2, 59, 60}) {
+                BigInteger then = BigInteger.valueOf(seed);
+                for (int draw = 0; draw < 2 * hours; draw++) {
+                    then = next(then);
+                }
+                checks.due("seasons(" + hours + ", " + seed + ", 2)", x.seasons(hours, seed, 2), then.longValueExact());
+            }
+        }
+    }
+
+    /** "as they would be": another object has these rains and hours; a rain of nothing is none. */
+    private static void asRainAndHourTell(Checks checks) {
+        for (String text : COASTS) {
+            for (int seed : SEEDS) {
+                RiversQueue x = Checks.coastOf(text);
+                RiversQueue goes = Checks.coastOf(text);
+                BigInteger drawn = BigInteger.valueOf(seed);
+                int taken = 0;
+                for (int hours = 1; hours <= 60; hours++) {
+                    drawn = next(drawn);
+                    int much = drawOf(drawn, 4);
+                    drawn = next(drawn);
+                    int river = drawOf(drawn, x.count(0));
+                    if (much > 0) {
+                        goes.rain(river, much);
+                    }
+                    taken += goes.hour();
+                    if (hours <= 2 || hours >= 59) {
+                        due(checks, x, hours, seed, taken, goes.count(2));
+                    }
+                }
+            }
+        }
+    }
+
+    private static void fromNowAsItIs(Checks checks) {
+        RiversQueue x = Scene.FIVE.get();
+        RiversQueue twin = Scene.FIVE.get();
+        for (int what = 0; what <= 2; what++) {
+            x.seasons(60, 1, what);
+        }
+        Told.by(x).dueAs(checks, "they only would be", Told.by(twin));
+        checks.due("the image stands", x.restore(), twin.restore());
+        Told.by(x).dueAs(checks, "restored behind seasons()", Told.by(twin));
+        RiversQueue y = Checks.coastOf("b30,b00;5");
+        due(checks, y, 1, 1, 5, 0);
+        y.drought(0);
+        // 2 in 0, which is behind 1 now, and stays.
+        due(checks, y, 1, 1, 0, 2);
+    }
+
+    /** "OUTSIDE: hours (1 to 60) .." ahead of STATE. */
+    private static void hoursOutside(Checks checks) {
+        for (int hours : Checks.outside(1, 60)) {
+            for (int what = 0; what <= 2; what++) {
+                int told = what;
+                String call = "seasons(" + hours + ", 1, " + what + ")";
+                checks.dueRefused(call, Scene.values(), x -> x.seasons(hours, 1, told), Checks.OUTSIDE);
+            }
+        }
+    }
+
+    /** ".. seed (0 at least) ..". */
+    private static void seedOutside(Checks checks) {
+        for (int seed : new int[] {-1, -2, -65536, Integer.MIN_VALUE + 1, Integer.MIN_VALUE}) {
+            for (int what = 0; what <= 2; what++) {
+                int told = what;
+                String call = "seasons(60, " + seed + ", " + what + ")";
+                checks.dueRefused(call, Scene.values(), x -> x.seasons(60, seed, told), Checks.OUTSIDE);
+            }
+        }
+    }
+
+    /** ".. what". */
+    private static void whatOutside(Checks checks) {
+        for (int what : Checks.outside(0, 2)) {
+            String call = "seasons(1, 0, " + what + ")";
+            checks.dueRefused(call, Scene.values(), x -> x.seasons(1, 0, what), Checks.OUTSIDE);
+        }
+    }
+
+    private static void noCoast(Checks checks) {
+        for (int what = 0; what <= 2; what++) {
+            int told = what;
+            checks.dueRefused("seasons(1, 0, ..)", Scene.NEW, x -> x.seasons(1, 0, told), Checks.STATE);
+            checks.dueRefused("seasons(60, 2147483647, ..)", Scene.NEW,
+                x -> x.seasons(60, Integer.MAX_VALUE, told), Checks.STATE);
         }
     }
 }
