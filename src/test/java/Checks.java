@@ -1,3 +1,4 @@
+import java.util.Arrays;
 import java.util.function.Supplier;
 import java.util.function.ToIntFunction;
 
@@ -81,12 +82,14 @@ final class Checks {
         return x;
     }
 
-    /** As read, and then rain until each has so much, which is not less than what the text tells. */
+    /** As read, and then rain: so much stands in each, if the text doesn't tell more. */
     static RiversQueue coastWith(String text, int... water) {
         RiversQueue x = coastOf(text);
         for (int river = 0; river < water.length; river++) {
-            while (x.river(river, 1) < water[river]) {
-                x.rain(river, Math.min(50, water[river] - x.river(river, 1)));
+            int lacks = water[river] - (text.charAt(4 * river + 1) - '0');
+            for (int rain = Math.min(50, lacks); rain > 0; rain = Math.min(50, lacks)) {
+                x.rain(river, rain);
+                lacks -= rain;
             }
         }
         return x;
@@ -94,7 +97,7 @@ final class Checks {
 
     /** The numbers that name none of so many: the first one, the one ahead of 0, and wild ones. */
     static int[] beyond(int many) {
-        int[] numbers = java.util.Arrays.copyOf(WILD, WILD.length + 2);
+        int[] numbers = Arrays.copyOf(WILD, WILD.length + 2);
         numbers[WILD.length] = many;
         numbers[WILD.length + 1] = many + 1;
         return numbers;

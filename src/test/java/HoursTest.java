@@ -26,7 +26,7 @@ public final class HoursTest {
         checks.end();
     }
 
-    /** Bar 1, no flow: who stands ahead when the sea takes is told by the row, as it is known who has none then. */
+    /** Bar 1, no flow: the row tells who stood ahead when the sea took, as it is known who has none then. */
     private static void duePush(Checks checks, char ahead, int hasAhead, char behind, int hasBehind, boolean pushes) {
         String text = ahead + "00," + behind + "00;1";
         String call = hasAhead + " of " + ahead + " ahead of " + hasBehind + " of " + behind;
@@ -226,8 +226,8 @@ public final class HoursTest {
     }
 
     private static void hourRefuses(Checks checks) {
-        checks.dueRefused("hour()", Scene.NEW, x -> x.hour(), Checks.STATE);
-        checks.dueRefused("hour() with what is no coast", () -> Checks.pageOf("r10,f20;0"), x -> x.hour(), Checks.STATE);
+        checks.dueRefused("hour()", Scene.WITHOUT_COAST, x -> x.hour(), Checks.STATE);
+        checks.dueRefused("hour() of no coast", () -> Checks.pageOf("r10,f20;0"), x -> x.hour(), Checks.STATE);
         checks.dueRefused("hour() ahead of coast()", () -> Checks.pageOf("r10,f20;1"), x -> x.hour(), Checks.STATE);
     }
 

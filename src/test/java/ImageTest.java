@@ -11,6 +11,7 @@ public final class ImageTest {
         sixSeenAreKept(checks);
         theLatestIsKept(checks);
         whatCountsOn(checks);
+        theScenesHaveImages(checks);
         imageRefuses(checks);
         noneWasKept(checks);
         anotherCoastSince(checks);
@@ -146,8 +147,18 @@ public final class ImageTest {
         checks.due("its letter", x.fault(), 1);
     }
 
+    /** What other tests lean on, who ask whether a refused call changes the image. */
+    private static void theScenesHaveImages(Checks checks) {
+        for (Scene scene : new Scene[] {Scene.FIVE, Scene.FULL}) {
+            RiversQueue x = scene.get();
+            checks.due(scene + " stands in hour", x.count(3), 3);
+            checks.due(scene + " goes back to hour", x.restore(), 2);
+            checks.due(scene + " has seen by then", x.count(5), 1);
+        }
+    }
+
     private static void imageRefuses(Checks checks) {
-        checks.dueRefused("image()", Scene.NEW, x -> x.image(), Checks.STATE);
+        checks.dueRefused("image()", Scene.WITHOUT_COAST, x -> x.image(), Checks.STATE);
         RiversQueue x = new RiversQueue();
         x.image();
         Checks.write(x, TEXT);
@@ -155,11 +166,18 @@ public final class ImageTest {
         checks.due("a refused image() keeps none", x.restore(), Checks.STATE);
     }
 
+    private static RiversQueue lettersOnACoast() {
+        RiversQueue x = twoHoursOn();
+        Checks.write(x, "r10,f20;1");
+        return x;
+    }
+
     /** "STATE: none was kept ..". */
     private static void noneWasKept(Checks checks) {
-        checks.dueRefused("restore() of none", Scene.NEW, x -> x.restore(), Checks.STATE);
+        checks.dueRefused("restore() of none", Scene.WITHOUT_COAST, x -> x.restore(), Checks.STATE);
         checks.dueRefused("restore() of none", Scene.TWO, x -> x.restore(), Checks.STATE);
         checks.dueRefused("restore() of none, two hours on", ImageTest::twoHoursOn, x -> x.restore(), Checks.STATE);
+        checks.dueRefused("restore() of none, letters", ImageTest::lettersOnACoast, x -> x.restore(), Checks.STATE);
     }
 
     private static RiversQueue readAgain(String text) {

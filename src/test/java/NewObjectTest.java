@@ -1,3 +1,5 @@
+import java.util.function.ToIntFunction;
+
 /** Promise 1, and what each call answers while there is no coast. */
 public final class NewObjectTest {
     public static void main(String[] args) {
@@ -31,38 +33,41 @@ public final class NewObjectTest {
         checks.due("new: digest()", x.digest(), h);
     }
 
+    private static void dueRefused(Checks checks, String call, ToIntFunction<RiversQueue> asked, int want) {
+        checks.dueRefused(call, Scene.WITHOUT_COAST, asked, want);
+    }
+
     /** "At first there is none": no number names one, and that is told ahead of all else. */
     private static void noRiversAtFirst(Checks checks) {
         for (int number : new int[] {-1, 0, 1, 4, 5}) {
-            checks.dueRefused("new: river(n, 0)", Scene.NEW, x -> x.river(number, 0), Checks.UNKNOWN);
-            checks.dueRefused("new: river(n, 8)", Scene.NEW, x -> x.river(number, 8), Checks.UNKNOWN);
-            checks.dueRefused("new: as(n, 0)", Scene.NEW, x -> x.as(number, 0), Checks.UNKNOWN);
-            checks.dueRefused("new: as(n, 5)", Scene.NEW, x -> x.as(number, 5), Checks.UNKNOWN);
-            checks.dueRefused("new: row(n)", Scene.NEW, x -> x.row(number), Checks.UNKNOWN);
-            checks.dueRefused("new: rain(n, 1)", Scene.NEW, x -> x.rain(number, 1), Checks.UNKNOWN);
-            checks.dueRefused("new: rain(n, 0)", Scene.NEW, x -> x.rain(number, 0), Checks.UNKNOWN);
-            checks.dueRefused("new: drought(n)", Scene.NEW, x -> x.drought(number), Checks.UNKNOWN);
-            checks.dueRefused("new: see(1, n, true)", Scene.NEW, x -> x.see(1, number, true), Checks.UNKNOWN);
+            dueRefused(checks, "river(n, 0)", x -> x.river(number, 0), Checks.UNKNOWN);
+            dueRefused(checks, "river(n, 8)", x -> x.river(number, 8), Checks.UNKNOWN);
+            dueRefused(checks, "as(n, 0)", x -> x.as(number, 0), Checks.UNKNOWN);
+            dueRefused(checks, "as(n, 5)", x -> x.as(number, 5), Checks.UNKNOWN);
+            dueRefused(checks, "row(n)", x -> x.row(number), Checks.UNKNOWN);
+            dueRefused(checks, "rain(n, 1)", x -> x.rain(number, 1), Checks.UNKNOWN);
+            dueRefused(checks, "rain(n, 0)", x -> x.rain(number, 0), Checks.UNKNOWN);
+            dueRefused(checks, "drought(n)", x -> x.drought(number), Checks.UNKNOWN);
+            dueRefused(checks, "see(1, n, true)", x -> x.see(1, number, true), Checks.UNKNOWN);
         }
     }
 
     /** "STATE: no COAST", but behind OUTSIDE, where that is told ahead of it. */
     private static void callsThatNeedACoast(Checks checks) {
-        checks.dueRefused("new: coast()", Scene.NEW, x -> x.coast(), Checks.STATE);
-        checks.dueRefused("new: hour()", Scene.NEW, x -> x.hour(), Checks.STATE);
-        checks.dueRefused("new: image()", Scene.NEW, x -> x.image(), Checks.STATE);
-        checks.dueRefused("new: restore()", Scene.NEW, x -> x.restore(), Checks.STATE);
-        checks.dueRefused("new: wide(1, 0)", Scene.NEW, x -> x.wide(1, 0), Checks.STATE);
-        checks.dueRefused("new: wide(60, 1)", Scene.NEW, x -> x.wide(60, 1), Checks.STATE);
-        checks.dueRefused("new: best(0)", Scene.NEW, x -> x.best(0), Checks.STATE);
-        checks.dueRefused("new: best(14)", Scene.NEW, x -> x.best(14), Checks.STATE);
-        checks.dueRefused("new: seasons(1, 0, 0)", Scene.NEW, x -> x.seasons(1, 0, 0), Checks.STATE);
-        checks.dueRefused("new: seasons(60, 2147483647, 2)", Scene.NEW, x -> x.seasons(60, Integer.MAX_VALUE, 2),
-            Checks.STATE);
-        checks.dueRefused("new: wide(0, 0)", Scene.NEW, x -> x.wide(0, 0), Checks.OUTSIDE);
-        checks.dueRefused("new: best(1)", Scene.NEW, x -> x.best(1), Checks.OUTSIDE);
-        checks.dueRefused("new: seasons(1, 0, 3)", Scene.NEW, x -> x.seasons(1, 0, 3), Checks.OUTSIDE);
-        checks.dueRefused("new: see(0, 0, true)", Scene.NEW, x -> x.see(0, 0, true), Checks.OUTSIDE);
+        dueRefused(checks, "coast()", x -> x.coast(), Checks.STATE);
+        dueRefused(checks, "hour()", x -> x.hour(), Checks.STATE);
+        dueRefused(checks, "image()", x -> x.image(), Checks.STATE);
+        dueRefused(checks, "restore()", x -> x.restore(), Checks.STATE);
+        dueRefused(checks, "wide(1, 0)", x -> x.wide(1, 0), Checks.STATE);
+        dueRefused(checks, "wide(60, 1)", x -> x.wide(60, 1), Checks.STATE);
+        dueRefused(checks, "best(0)", x -> x.best(0), Checks.STATE);
+        dueRefused(checks, "best(14)", x -> x.best(14), Checks.STATE);
+        dueRefused(checks, "seasons(1, 0, 0)", x -> x.seasons(1, 0, 0), Checks.STATE);
+        dueRefused(checks, "seasons(60, 2147483647, 2)", x -> x.seasons(60, Integer.MAX_VALUE, 2), Checks.STATE);
+        dueRefused(checks, "wide(0, 0)", x -> x.wide(0, 0), Checks.OUTSIDE);
+        dueRefused(checks, "best(1)", x -> x.best(1), Checks.OUTSIDE);
+        dueRefused(checks, "seasons(1, 0, 3)", x -> x.seasons(1, 0, 3), Checks.OUTSIDE);
+        dueRefused(checks, "see(0, 0, true)", x -> x.see(0, 0, true), Checks.OUTSIDE);
     }
 
     private static void callsThatNeedNone(Checks checks) {

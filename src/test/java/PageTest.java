@@ -57,9 +57,17 @@ public final class PageTest {
         }
         for (int code : new int[] {1, 114, 126}) {
             checks.dueRefused("the 25th, letter(" + code + ")", Scene.FULL, y -> y.letter(code), Checks.FULL);
+            checks.dueRefused("the 25th alone", () -> Checks.pageOf("~".repeat(24)), y -> y.letter(code), Checks.FULL);
+            checks.dueRefused("the 25th, a coast", PageTest::fullPageOnACoast, y -> y.letter(code), Checks.FULL);
             checks.due("the 25th, letter(" + code + ")", x.letter(code), Checks.FULL);
         }
         checks.due("count(6)", x.count(6), 24);
+    }
+
+    private static RiversQueue fullPageOnACoast() {
+        RiversQueue x = Scene.TWO.get();
+        Checks.write(x, "r".repeat(24));
+        return x;
     }
 
     private static void roomAgain(Checks checks) {

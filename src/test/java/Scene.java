@@ -4,6 +4,8 @@ import java.util.function.Supplier;
 enum Scene implements Supplier<RiversQueue> {
     /** No coast. */
     NEW,
+    /** No coast, and letters that are none yet. */
+    WRITTEN,
     /** The fewest rivers, as read. */
     TWO,
     /** The most rivers some hours on, an image that is not how they stand now, some of all else. */
@@ -11,11 +13,13 @@ enum Scene implements Supplier<RiversQueue> {
     /** As much of all as there can be: letters, what is seen, and best() done. */
     FULL;
 
+    static final Scene[] WITHOUT_COAST = {NEW, WRITTEN};
     static final Scene[] WITH_COAST = {TWO, FIVE, FULL};
 
     @Override public RiversQueue get() {
         switch (this) {
             case NEW: return new RiversQueue();
+            case WRITTEN: return Checks.pageOf("r10,f20;");
             case TWO: return Checks.coastOf("r10,f20;1");
             case FIVE: return fiveHoursOn();
             default: return filled(fiveHoursOn());
@@ -26,6 +30,7 @@ enum Scene implements Supplier<RiversQueue> {
     int rivers() {
         switch (this) {
             case NEW: return 0;
+            case WRITTEN: return 0;
             case TWO: return 2;
             default: return 5;
         }
@@ -46,14 +51,13 @@ enum Scene implements Supplier<RiversQueue> {
         return x;
     }
 
+    /** Counted by itself, not by what the object tells: a wrong one is to be told, not waited for. */
     private static RiversQueue filled(RiversQueue x) {
-        while (x.count(6) < 24) {
-            x.letter('r');
-        }
-        while (x.count(5) < 6) {
+        Checks.write(x, "r".repeat(21));
+        for (int i = 0; i < 4; i++) {
             x.see(3, 2, false);
         }
-        while (x.count(8) < 30) {
+        for (int i = 0; i < 29; i++) {
             x.best(14);
         }
         return x;

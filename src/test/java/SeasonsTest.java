@@ -165,8 +165,8 @@ public final class SeasonsTest {
     private static void noCoast(Checks checks) {
         for (int what = 0; what <= 2; what++) {
             int told = what;
-            checks.dueRefused("seasons(1, 0, ..)", Scene.NEW, x -> x.seasons(1, 0, told), Checks.STATE);
-            checks.dueRefused("seasons(60, 2147483647, ..)", Scene.NEW,
+            checks.dueRefused("seasons(1, 0, ..)", Scene.WITHOUT_COAST, x -> x.seasons(1, 0, told), Checks.STATE);
+            checks.dueRefused("seasons(60, 2147483647, ..)", Scene.WITHOUT_COAST,
                 x -> x.seasons(60, Integer.MAX_VALUE, told), Checks.STATE);
         }
     }

@@ -227,7 +227,8 @@ public final class SeenTest {
     private static void seeFull(Checks checks) {
         for (int river = 0; river < 5; river++) {
             int told = river;
-            checks.dueRefused("the 7th, see(1, " + river + ", true)", Scene.FULL, x -> x.see(1, told, true), Checks.FULL);
+            checks.dueRefused("the 7th, see(1, " + river + ", true)", Scene.FULL, x -> x.see(1, told, true),
+                Checks.FULL);
             checks.dueRefused("the 7th, see(12, " + river + ", false)", Scene.FULL, x -> x.see(12, told, false),
                 Checks.FULL);
         }

@@ -43,8 +43,8 @@ public final class TellTest {
         due(checks, "another coast", x, 2, 9, 18, 0, 0, 0, 0, 2, 1);
         RiversQueue most = Checks.coastWith("b95,b95,b95,b95,b95;9", 99, 99, 99, 99, 99);
         due(checks, "as much as can stand", most, 5, 9, 495, 0, 0, 0, 0, 1, 0);
-        due(checks, "as much of all", Scene.FULL.get(), 5, 7, Scene.FULL.get().count(2), 3, Scene.FULL.get().count(4), 6,
-            24, 1, 30);
+        RiversQueue full = Scene.FULL.get();
+        due(checks, "as full as can be", full, 5, 7, full.count(2), 3, full.count(4), 6, 24, 1, 30);
     }
 
     /** "counts on, whatever is read or restored"; what is refused is not counted. */
@@ -73,6 +73,7 @@ public final class TellTest {
 
     private static void digestOfEachScene(Checks checks) {
         dueDigest(checks, Scene.NEW.get(), "", "NEW");
+        dueDigest(checks, Scene.WRITTEN.get(), "r10,f20;", "WRITTEN");
         dueDigest(checks, Scene.TWO.get(), "", "TWO");
         dueDigest(checks, Scene.FIVE.get(), "r9;", "FIVE");
         dueDigest(checks, Scene.FULL.get(), "r9;" + "r".repeat(21), "FULL");
@@ -132,14 +133,15 @@ public final class TellTest {
         dueDigest(checks, x, "", "rain");
         x.drought(4);
         dueDigest(checks, x, "", "drought");
-        x.see(4, 0, true);
-        dueDigest(checks, x, "", "seen");
-        x.image();
-        x.hour();
-        x.restore();
-        dueDigest(checks, x, "", "restored");
-        x.best(0);
-        dueDigest(checks, x, "", "best");
+        RiversQueue y = Checks.coastOf("r10,f21,b32,o43,t54;7");
+        y.see(4, 0, true);
+        dueDigest(checks, y, "", "seen");
+        y.image();
+        y.hour();
+        y.restore();
+        dueDigest(checks, y, "", "restored");
+        y.best(0);
+        dueDigest(checks, y, "", "best");
     }
 
     /** "letters of THE PAGE, each by its code". */

@@ -141,8 +141,8 @@ public final class WouldBeTest {
         }
         for (int what = 0; what <= 1; what++) {
             int told = what;
-            checks.dueRefused("wide(1, " + what + ")", Scene.NEW, x -> x.wide(1, told), Checks.STATE);
-            checks.dueRefused("wide(60, " + what + ")", Scene.NEW, x -> x.wide(60, told), Checks.STATE);
+            checks.dueRefused("wide(1, " + what + ")", Scene.WITHOUT_COAST, x -> x.wide(1, told), Checks.STATE);
+            checks.dueRefused("wide(60, " + what + ")", Scene.WITHOUT_COAST, x -> x.wide(60, told), Checks.STATE);
         }
     }
 
@@ -260,7 +260,7 @@ public final class WouldBeTest {
     /** "no COAST, or best() was done 30 times in all". */
     private static void bestIsDone30Times(Checks checks) {
         for (int what : new int[] {0, 10, 14}) {
-            checks.dueRefused("best(" + what + ")", Scene.NEW, x -> x.best(what), Checks.STATE);
+            checks.dueRefused("best(" + what + ")", Scene.WITHOUT_COAST, x -> x.best(what), Checks.STATE);
             checks.dueRefused("the 31st best(" + what + ")", Scene.FULL, x -> x.best(what), Checks.STATE);
         }
         RiversQueue x = Checks.coastOf("b30,b10;1");
